@@ -918,10 +918,6 @@ public final class TippedIntoTheNextLap {
         }
     }
 
-    private static boolean isNight(int hour) {
-        return hour >= 22 || hour <= 5;
-    }
-
     private static int kneesOf(int kind, int figure) {
         switch (kind) {
             case TALL: return 6 + figure / 3;
@@ -932,9 +928,9 @@ public final class TippedIntoTheNextLap {
         }
     }
 
-    private static int wantOf(int kind, int figure, int ahead, int hour) {
+    private static int wantOf(int kind, int figure, int ahead, boolean night) {
         switch (kind) {
-            case SLEEPER: return isNight(hour) ? MOST_TIP : ahead;
+            case SLEEPER: return night ? MOST_TIP : ahead;
             case TALL: return ahead + 2;
             case CHILD: return figure;
             case SHY: return ahead / 2;
@@ -945,9 +941,9 @@ public final class TippedIntoTheNextLap {
         }
     }
 
-    private static int worthOf(int kind, int figure, int hour) {
+    private static int worthOf(int kind, int figure, boolean night) {
         switch (kind) {
-            case SLEEPER: return isNight(hour) ? 3 : 1;
+            case SLEEPER: return night ? 3 : 1;
             case TALL: return figure / 2 + 1;
             case STOPPER: return figure / 2;
             case CHILD:
@@ -1010,6 +1006,10 @@ public final class TippedIntoTheNextLap {
             return row >= 0 && row < people;
         }
 
+        private boolean isNight() {
+            return clock >= 22 || clock <= 5;
+        }
+
         boolean isBlocked(int row) {
             return (blocked >> row & 1) != 0;
         }
@@ -1022,7 +1022,7 @@ public final class TippedIntoTheNextLap {
         }
 
         int worthAt(int row) {
-            return worthOf(kinds[row], figures[row], clock);
+            return worthOf(kinds[row], figures[row], isNight());
         }
 
         int roomAt(int row) {
@@ -1164,8 +1164,9 @@ public final class TippedIntoTheNextLap {
             for (int i = 0; i < people; i++) {
                 limits[i] = canAt(i);
             }
+            boolean night = isNight();
             for (int done = 0; done < n; done++) {
-                if (!roundStirs()) {
+                if (!roundStirs(night)) {
                     return done;
                 }
             }
@@ -1173,10 +1174,10 @@ public final class TippedIntoTheNextLap {
         }
 
         /** One round, from the last row on: so each still sees how the one ahead began it. */
-        private boolean roundStirs() {
+        private boolean roundStirs(boolean night) {
             boolean stirs = false;
             for (int i = people - 1; i >= 0; i--) {
-                int tip = Math.min(wantOf(kinds[i], figures[i], tipAhead(i), clock), limits[i]);
+                int tip = Math.min(wantOf(kinds[i], figures[i], tipAhead(i), night), limits[i]);
                 if (tip != tipped[i]) {
                     tipped[i] = tip;
                     stirs = true;

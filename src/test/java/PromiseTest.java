@@ -552,6 +552,12 @@ public final class PromiseTest {
         due(20, "seven", six.order(9, -1), REFUSED_3);
         due(20, "no row first", six.order(9, 7), REFUSED_1);
         due(20, "nobody", new TippedIntoTheNextLap().order(0, -1), 0);
+        // Only the last of all orders: SLEEPER 10, BABY 0, TALL 2 4 6, POLITE: 30 + 0 + 10 + 8 + 4 - 6.
+        TippedIntoTheNextLap last = with("p51;p22;p27;p29;p61;p18;");
+        due(20, "the last order", last.order(9, -1), 46);
+        for (int i = 0; i < 6; i++) {
+            due(20, "the last order, row " + i, last.order(9, i), 5 - i);
+        }
         due(20, "from tips 0", with("p00;p30;t009;").order(0, -1), 0);
     }
 
@@ -969,6 +975,10 @@ public final class PromiseTest {
         due(40, "a kind", x.copy(4, 0, 1, 0, 1), -12);
         due(40, "a kind", x.copy(1, 0, 4, 0, 1), -12);
         due(40, "kinds", x.copy(4, 0, 4, 0, 0), -12);
+        x.row(3, 1, 3);
+        x.keep(3, 1, 0, 0);
+        due(40, "a kind where such a row was", x.copy(3, 0, 1, 0, 1), -12);
+        due(40, "a kind where such a row was", x.copy(1, 0, 3, 0, 1), -12);
         x.row(2, 0, 3);
         due(40, "two sorts", x.copy(1, 0, 2, 0, 9), -12);
         due(40, "as it was", x.element(2, 0), 0);
