@@ -374,17 +374,7 @@ public final class TippedIntoTheNextLap {
         if (refusal != 0) {
             return refusal;
         }
-        int kinds = 0;
-        int figures = 0;
-        for (int kind = 0; kind < KINDS; kind++) {
-            for (int figure = 0; figure < FIGURES; figure++) {
-                if (wouldTipAsTold(told, row, kind, figure)) {
-                    kinds |= 1 << kind;
-                    figures |= 1 << figure;
-                }
-            }
-        }
-        return what == 0 ? kinds : figures;
+        return what == 0 ? kindsAsTold(told, row) : figuresAsTold(told, row);
     }
 
     public long mean(int part) {
@@ -861,6 +851,27 @@ public final class TippedIntoTheNextLap {
             low = rest;
         }
         return high;
+    }
+
+    /** What he is by one is looked for with the other as it is. */
+    private int kindsAsTold(Shelf told, int row) {
+        int kinds = 0;
+        for (int kind = 0; kind < KINDS; kind++) {
+            if (wouldTipAsTold(told, row, kind, now.figures[row])) {
+                kinds |= 1 << kind;
+            }
+        }
+        return kinds;
+    }
+
+    private int figuresAsTold(Shelf told, int row) {
+        int figures = 0;
+        for (int figure = 0; figure < FIGURES; figure++) {
+            if (wouldTipAsTold(told, row, now.kinds[row], figure)) {
+                figures |= 1 << figure;
+            }
+        }
+        return figures;
     }
 
     private boolean wouldTipAsTold(Shelf told, int row, int kind, int figure) {

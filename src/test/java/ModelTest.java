@@ -496,7 +496,10 @@ public final class ModelTest {
 
     private static void whatHeIs(int c, Random draws, Model m, TippedIntoTheNextLap x, int sort) {
         int row = draws.nextInt(m.size());
-        Model guess = sitting(m, row, new Person(draws.nextInt(8), draws.nextInt(10)));
+        Person he = m.people.get(row);
+        boolean byKind = draws.nextBoolean();
+        Model guess = sitting(m, row, byKind
+            ? new Person(draws.nextInt(8), he.figure()) : new Person(he.kind(), draws.nextInt(10)));
         int[] tips = new int[draws.nextInt(12)];
         for (int i = 0; i < tips.length; i++) {
             int told = guess.on(i).tips[row] + (draws.nextInt(30) == 0 ? 1 : 0);
@@ -505,19 +508,22 @@ public final class ModelTest {
         int kinds = 0;
         int figures = 0;
         for (int k = 0; k < 8; k++) {
-            for (int f = 0; f < 10; f++) {
-                Model t = sitting(m, row, new Person(k, f));
-                boolean so = true;
-                for (int i = 0; i < tips.length && so; i++) {
-                    so = tips[i] == LEAST[sort] || tips[i] == t.on(i).tips[row];
-                }
-                kinds |= so ? 1 << k : 0;
-                figures |= so ? 1 << f : 0;
-            }
+            kinds |= tipsSo(sitting(m, row, new Person(k, he.figure())), row, tips, LEAST[sort]) ? 1 << k : 0;
+        }
+        for (int f = 0; f < 10; f++) {
+            figures |= tipsSo(sitting(m, row, new Person(he.kind(), f)), row, tips, LEAST[sort]) ? 1 << f : 0;
         }
         putAll(x, 2, sort, tips);
         due(c, "whatIs kinds", x.whatIs(2, row, 0), kinds);
         due(c, "whatIs figures", x.whatIs(2, row, 1), figures);
+    }
+
+    private static boolean tipsSo(Model m, int row, int[] tips, long skipped) {
+        boolean so = true;
+        for (int i = 0; i < tips.length && so; i++) {
+            so = tips[i] == skipped || tips[i] == m.on(i).tips[row];
+        }
+        return so;
     }
 
     private static Model sitting(Model m, int row, Person who) {

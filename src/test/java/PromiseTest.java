@@ -681,15 +681,15 @@ public final class PromiseTest {
         TippedIntoTheNextLap x = with("p00;p00;p00;h12;t008;");
         int least = -2147483648;
         numbers(x, 0, 2, 0, 8);
-        // Behind one round of 8 ahead: SITTER, SLEEPER by day, TALL (10, CAN 8), CHILD 8 and 9.
-        due(27, "kinds", x.whatIs(0, 1, 0), 0b1111);
+        // Behind one round of 8 ahead: SITTER, SLEEPER by day, TALL (10, CAN 8); a CHILD with his figure tips 0.
+        due(27, "kinds", x.whatIs(0, 1, 0), 0b0111);
         due(27, "figures", x.whatIs(0, 1, 1), 0b1111111111);
         numbers(x, 0, 2, 0, 8, 2);
         due(27, "tall", x.whatIs(0, 1, 0), 0b0100);
-        due(27, "any figure", x.whatIs(0, 1, 1), 0b1111111111);
+        due(27, "no figure of a sitter", x.whatIs(0, 1, 1), 0);
         numbers(x, 0, 2, 0, 8, 8);
-        due(27, "child", x.whatIs(0, 1, 0), 0b1000);
-        due(27, "8 or 9", x.whatIs(0, 1, 1), 0b1100000000);
+        due(27, "a child with another figure", x.whatIs(0, 1, 0), 0);
+        due(27, "a figure of another kind", x.whatIs(0, 1, 1), 0);
         numbers(x, 0, 2, least, 4, 0);
         due(27, "shy", x.whatIs(0, 1, 0), 0b10000);
         numbers(x, 0, 2, least, 3, 0);
@@ -697,6 +697,7 @@ public final class PromiseTest {
         numbers(x, 0, 2, least, 0);
         // A child of figure 0, a baby and a stopper tip none; knees behind no matter yet.
         due(27, "those who tip none", x.whatIs(0, 1, 0), 0b11001000);
+        due(27, "a sitter tips", x.whatIs(0, 1, 1), 0);
         numbers(x, 0, 1, 1, 8);
         due(27, "not as it is now", x.whatIs(0, 1, 0), 0);
         due(27, "not as it is now", x.whatIs(0, 1, 1), 0);
@@ -726,8 +727,26 @@ public final class PromiseTest {
         // Whom the sleeper gives 1 (CAN): TALL wants 2 at once; SITTER's knees leave 8.
         due(27, "none", y.whatIs(0, 1, 0), 0);
         numbers(y, 0, 2, 0, 2, 3);
-        due(27, "tall behind 1 of the sleeper", y.whatIs(0, 1, 0), 0b100);
-        due(27, "knees 9", y.whatIs(0, 1, 1), 0b1000000000);
+        due(27, "tall of figure 9 alone", y.whatIs(0, 1, 0), 0);
+        due(27, "sitters are not tall", y.whatIs(0, 1, 1), 0);
+        TippedIntoTheNextLap tall = with("p10;p29;p30;");
+        numbers(tall, 0, 2, 0, 2, 3);
+        due(27, "tall behind 1 of the sleeper", tall.whatIs(0, 1, 0), 0b100);
+        due(27, "knees 9", tall.whatIs(0, 1, 1), 0b1000000000);
+        // A CHILD of 8 or 9 tips 8 behind each ROUND (CAN 8); all others look at the one ahead, who tips 0 then.
+        TippedIntoTheNextLap child = with("p00;p38;p00;h12;t008;");
+        numbers(child, 0, 2, 0, 8, 8);
+        due(27, "child", child.whatIs(0, 1, 0), 0b1000);
+        due(27, "8 or 9", child.whatIs(0, 1, 1), 0b1100000000);
+        numbers(child, 0, 2, 0, 5);
+        due(27, "child of 5, but he is of 8", child.whatIs(0, 1, 0), 0);
+        due(27, "5", child.whatIs(0, 1, 1), 0b100000);
+        // A sleeper by night tips 8 whatever his figure; a child of figure 0 would tip 0.
+        TippedIntoTheNextLap sleeper = with("p00;p10;p00;");
+        numbers(sleeper, 0, 0, 0, 0);
+        due(27, "no figure keeps him awake", sleeper.whatIs(0, 1, 1), 0);
+        // Behind no tip ahead: SITTER, CHILD 0, SHY, POLITE, BABY, STOPPER; SLEEPER 8, TALL 2.
+        due(27, "kinds with figure 0", sleeper.whatIs(0, 1, 0), 0b11111001);
     }
 
     private static void mean() {
