@@ -81,10 +81,11 @@ abstract class Boundary {
         }
     }
 
-    /** For a question and for a refusal: the answer is that, and nothing is changed by it. */
+    /** For a question and for a refusal: the answer is that, twice, and nothing is changed by it. */
     static void asks(Making making, String call, ToLongFunction<TippedIntoTheNextLap> asked, long want) {
         TippedIntoTheNextLap x = making.made();
         due(call, asked.applyAsLong(x), want);
+        due(call + ", again", asked.applyAsLong(x), want);
         String is = state(x);
         String was = state(making.made());
         if (!is.equals(was)) {

@@ -125,6 +125,12 @@ public final class BoundaryCoachTest extends Boundary {
         asks(by("p00;p60;"), "CAN ahead of KNEES 0", x -> x.seat(0, 4), 10);
     }
 
+    static void p03BlockedIs1Or0() {
+        asks(by("p00;p00;b1;"), "not blocked", x -> x.seat(0, 3), 0);
+        asks(by("p00;p00;b1;"), "blocked", x -> x.seat(1, 3), 1);
+        asks(by("p00;p00;b1;b1;"), "not any more", x -> x.seat(1, 3), 0);
+    }
+
     static void p03Can0InTheLastRow() {
         asks(by("p60;p60;"), "CAN in the last row but one", x -> x.seat(0, 4), 10);
         asks(by("p60;p60;"), "CAN in the last row", x -> x.seat(1, 4), 0);
@@ -422,8 +428,8 @@ public final class BoundaryCoachTest extends Boundary {
     }
 
     static void p09NoMoreThanHeCan() {
-        String[] behind = {"p00;", "p19;", "p20;", "p23;", "p26;", "p29;", "p30;", "p49;", "p59;", "p69;", "p72;", "p73;",
-            "p78;", "p79;"};
+        String[] behind = {"p00;", "p19;", "p20;", "p23;", "p26;", "p29;", "p30;", "p49;", "p59;", "p69;", "p72;",
+            "p73;", "p78;", "p79;"};
         int[] can = {8, 8, 4, 3, 2, 1, 9, 8, 8, 10, 3, 2, 1, 0};
         for (int i = 0; i < can.length; i++) {
             TippedIntoTheNextLap x = by("p10;" + behind[i]).made();

@@ -98,6 +98,13 @@ public final class BoundaryOrdersTest extends Boundary {
         asks(by("p30;p20;h12;"), "more", x -> x.swap(1), 1);
     }
 
+    static void p21AsTheySitBehindNRoundsToo() {
+        // They have 2 as they sit; two children alike who change places leave 2 of it.
+        asks(by("p20;p32;p32;h12;"), "as much, above 0", x -> x.swap(1), -4);
+        // They have -3 as they sit; the sitter ahead of all has 0 of it.
+        asks(by("p33;p00;p31;h12;"), "0, more than below 0", x -> x.swap(1), 1);
+    }
+
     static void p21NobodyAndOneAlone() {
         asks(NOBODY, "nobody", x -> x.swap(60), -4);
         asks(by("p29;"), "one", x -> x.swap(60), -4);
@@ -116,8 +123,8 @@ public final class BoundaryOrdersTest extends Boundary {
     static void p21FromTips0() {
         // As they sit now they have 10, from TIPS 0 nobody has any behind 0 rounds.
         asks(by("p00;p60;t010;"), "0 rounds", x -> x.swap(0), -4);
-        // TIPS now (-4) no matter: from TIPS 0 they have 0 as they sit, and 0 the other way.
-        asks(by("p40;p00;h12;t004;"), "TIPS now no matter", x -> x.swap(0), -4);
+        // As they sit now they have -5, from TIPS 0 they have 0 both ways.
+        asks(by("p30;p00;t005;"), "0 rounds", x -> x.swap(0), -4);
     }
 
     // ---- promise 22
@@ -284,6 +291,14 @@ public final class BoundaryOrdersTest extends Boundary {
     static void p26OneRoundFromNow() {
         asks(late("p00;p60;p60;", 999).and(x -> x.tips(0, 10)), "10 now, 0 then", x -> x.looksRound(20, 0, 0), 1);
         asks(late("p00;p60;p60;", 999).and(x -> x.tips(0, 10)), "10 now, 0 then", x -> x.looksRound(20, 0, 1), 1);
+    }
+
+    static void p26OneRoundAndNoMore() {
+        // Behind 1 round the sleeper alone tips; the sitter behind him, who may see the BABY, would in the next.
+        asks(by("p10;p00;p60;"), "8", x -> x.looksRound(3, 8, 1), 1);
+        asks(by("p10;p00;p60;"), "7", x -> x.looksRound(3, 7, 0), 0);
+        asks(by("p10;p00;p60;r01;"), "8 and 8", x -> x.looksRound(3, 8, 0), 1);
+        asks(by("p10;p00;p60;r01;"), "8 and 8", x -> x.looksRound(3, 8, 1), 3);
     }
 
     static void p26ABlockedOneTips0AnyHow() {

@@ -243,6 +243,13 @@ public final class BoundaryRoundsTest extends Boundary {
         }
     }
 
+    static void p17EightToo() {
+        asks(by(WAVE), "as all want", x -> x.laws(0), 16);
+        asks(by(WAVE), "none", x -> x.laws(1), 0);
+        asks(by(WAVE), "as far as each can", x -> x.laws(2), 16);
+        asks(by(WAVE), "most", x -> x.laws(-1), 0);
+    }
+
     static void p17Behind60RoundsTripNoMatter() {
         asks(late(WAVE, 999).and(x -> x.tips(0, 0)), "law 0", x -> x.laws(0), 16);
     }

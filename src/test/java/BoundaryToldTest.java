@@ -108,13 +108,15 @@ public final class BoundaryToldTest extends Boundary {
     }
 
     static void p27AHundredNumbers() {
-        asks(withRow(by(THREE), 0, INTS, alike(100, 0, 0)), "the last row: none tips", x -> x.whatIs(0, 2, 0), ALL_KINDS);
+        asks(withRow(by(THREE), 0, INTS, alike(100, 0, 0)), "none tips in the last row", x -> x.whatIs(0, 2, 0),
+            ALL_KINDS);
         asks(withRow(by(THREE), 0, INTS, alike(100, 0, 1)), "but for the last", x -> x.whatIs(0, 2, 0), 0);
         asks(withRow(by(THREE), 0, INTS, alike(61, 0, 1)), "behind 60 rounds", x -> x.whatIs(0, 2, 0), 0);
     }
 
     static void p27TripNoMatter() {
-        asks(withRow(late("p35;p60;", 999).and(x -> x.tips(0, 0)), 0, BYTES, 0, 5), "at 999", x -> x.whatIs(0, 0, 1), 32);
+        Making end = late("p35;p60;", 999).and(x -> x.tips(0, 0));
+        asks(withRow(end, 0, BYTES, 0, 5), "at 999", x -> x.whatIs(0, 0, 1), 32);
     }
 
     // ---- promise 28
@@ -253,21 +255,50 @@ public final class BoundaryToldTest extends Boundary {
 
     // ---- promise 32
 
-    /** By longs, of CHILD 5, SITTER and CHILD 0, by whose 5 each one tips 5 behind him, blocks excepted. */
-    private static long tripsByLongs(int n, int z, int what) {
+    private static final String CHILD_AHEAD = "p35;p00;p00;p00;p00;p00;p00;p30;";
+
+    /**
+     * By longs, of a CHILD of 5 in row 0, SITTERS behind and a CHILD of 0 in the last row: his 5 go a row a round as far
+     * as the first block.
+     */
+    private static long tripsByLongs(int people, int n, int z, int what) {
         long seed = z & 0xffffffffL;
         long all = 0;
         for (int i = 0; i < n; i++) {
-            boolean[] blocked = new boolean[4];
-            for (int draw = 0; draw < 4; draw++) {
+            boolean[] blocked = new boolean[people + 1];
+            for (int draw = 0; draw <= people; draw++) {
                 seed = (seed * 1103515245L + 12345L) & 0xffffffffL;
                 long high = seed % 2147483648L / 65536L;
                 blocked[draw] = high % 5 == 0;
             }
-            int rows = blocked[1] ? 0 : blocked[2] ? 1 : 2;
+            int rows = 0;
+            while (rows < people - 1 && rows < 5 && !blocked[rows + 1]) {
+                rows++;
+            }
             all += what == 0 ? 5L * rows : rows;
         }
         return all;
+    }
+
+    private static long tripsByLongs(int n, int z, int what) {
+        return tripsByLongs(3, n, z, what);
+    }
+
+    static void p32FiveRoundsEach() {
+        for (int z = 0; z < 40; z++) {
+            int seed = z;
+            asks(by(CHILD_AHEAD), "eight, seed " + z, x -> x.trips(20, seed, 0), tripsByLongs(8, 20, z, 0));
+            asks(by(CHILD_AHEAD), "eight, seed " + z, x -> x.trips(20, seed, 1), tripsByLongs(8, 20, z, 1));
+        }
+    }
+
+    static void p32EachFromTips0() {
+        // A tip of row 1 would be in row 6 behind 5 rounds.
+        for (int z = 0; z < 40; z++) {
+            int seed = z;
+            asks(by(CHILD_AHEAD + "t108;"), "seed " + z, x -> x.trips(1, seed, 0), tripsByLongs(8, 1, z, 0));
+            asks(by(CHILD_AHEAD + "t108;"), "seed " + z, x -> x.trips(1, seed, 1), tripsByLongs(8, 1, z, 1));
+        }
     }
 
     static void p32NFrom1To20() {
@@ -305,7 +336,7 @@ public final class BoundaryToldTest extends Boundary {
         }
     }
 
-    static void p32EachFromTips0WithoutTheBlocksThatAre() {
+    static void p32WithoutTheBlocksThatAre() {
         Making told = by("p35;p00;p30;b1;t005;");
         asks(told, "blocks and tips now no matter", x -> x.trips(20, 3, 0), tripsByLongs(20, 3, 0));
         asks(late("p35;p00;p30;", 999), "trip no matter", x -> x.trips(20, 3, 0), tripsByLongs(20, 3, 0));
