@@ -303,13 +303,15 @@ public final class BoundaryToldTest extends Boundary {
 
     static void p32NFrom1To20() {
         Making three = by("p35;p00;p30;");
-        asksBoth(three, "trips, n", (x, v) -> x.trips(v, 9, 0), 1, tripsByLongs(1, 9, 0), 20, tripsByLongs(20, 9, 0));
+        asks(three, "1 trip", x -> x.trips(1, 9, 0), tripsByLongs(1, 9, 0));
+        asks(three, "20 trips", x -> x.trips(20, 9, 0), tripsByLongs(20, 9, 0));
         refusesOutside(three, "trips, n", 1, 20, (x, v) -> x.trips(v, 9, 0), -1);
     }
 
     static void p32What0And1() {
         Making three = by("p35;p00;p30;");
-        asksBoth(three, "trips, what", (x, v) -> x.trips(7, 9, v), 0, tripsByLongs(7, 9, 0), 1, tripsByLongs(7, 9, 1));
+        asks(three, "what 0", x -> x.trips(7, 9, 0), tripsByLongs(7, 9, 0));
+        asks(three, "what 1", x -> x.trips(7, 9, 1), tripsByLongs(7, 9, 1));
         refusesOutside(three, "trips, what", 0, 1, (x, v) -> x.trips(7, 9, v), -1);
     }
 
