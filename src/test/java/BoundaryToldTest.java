@@ -258,8 +258,8 @@ public final class BoundaryToldTest extends Boundary {
     private static final String CHILD_AHEAD = "p35;p00;p00;p00;p00;p00;p00;p30;";
 
     /**
-     * By longs, of a CHILD of 5 in row 0, SITTERS behind and a CHILD of 0 in the last row: his 5 go a row a round as far
-     * as the first block.
+     * By longs, of a CHILD of 5 in row 0, SITTERS behind and a CHILD of 0 in the last row: his 5 go a row a round as
+     * far as the first block.
      */
     private static long tripsByLongs(int people, int n, int z, int what) {
         long seed = z & 0xffffffffL;
