@@ -667,14 +667,15 @@ public final class TippedIntoTheNextLap {
     /** How many statements were done, or the fault of the first that can't be. */
     private static int doStatements(Coach on, Shelf text) {
         int done = 0;
-        int at = 0;
-        while (at < text.size) {
-            if (!doStatement(on, text, at)) {
-                return -2000 - at;
+        int letter = 0;
+        for (int at = 0; at < text.size; at++) {
+            if (text.byteAt(at) == ';') {
+                if (!doStatement(on, text, letter)) {
+                    return -2000 - letter;
+                }
+                letter = at + 1;
+                done++;
             }
-            // A letter that is none does not get here; it would make one byte.
-            at += digitsBehind(text.byteAt(at)) + 2;
-            done++;
         }
         return done;
     }
