@@ -576,7 +576,7 @@ public final class PromiseTest {
         // SLEEPER, SITTER, TALL 9, BABY: 27 as they sit (see run 2 under ../shared/tests).
         due(21, "four", with(FOUR).swap(3), 13);
         due(21, "nobody", new TippedIntoTheNextLap().swap(3), -4);
-        // From TIPS 0 they have 2 both ways; TIPS as now count nothing.
+        // From TIPS 0 they have 0 both ways; TIPS as now count nothing.
         due(21, "from tips 0", with("p00;p30;t009;h12;").swap(0), -4);
     }
 
@@ -592,7 +592,7 @@ public final class PromiseTest {
         due(22, "61", x.stops(61), -1);
         due(22, "nobody", new TippedIntoTheNextLap().stops(1), 0);
         due(22, "in mind", x.count(4), 4);
-        // 9 now, that go to the one behind in a round: either alone stops it; the least.
+        // 8 now, that go to the one behind in a round: either alone stops it; the least.
         due(22, "of several the least", with("p00;p00;p30;h12;t008;").stops(1), 1);
         due(22, "of several the least", with("p31;p00;p00;h12;").stops(2), 1);
     }
@@ -618,7 +618,7 @@ public final class PromiseTest {
         TippedIntoTheNextLap x = with(FOUR);
         // By night 27; by day 0 0 2: 10.
         due(24, "by night", x.bestHour(3), 0);
-        // By night 2 * 3 - 2 * 9 / 2.. : the sleeper takes 4 from a TALL 9: 12 - 20; by day none.
+        // By night the sleeper takes 1 (CAN) from a TALL 9: 3 - 5; by day none.
         TippedIntoTheNextLap y = with("p10;p29;");
         due(24, "1 to tip", y.bestHour(1), 6);
         due(24, "now all the same", y.bestHour(0), 0);
